@@ -517,6 +517,7 @@ public final class PromiseTest {
     private static void undoRestoresEverything() {
         FerryFloor x = new FerryFloor();
         x.setDrift(1, 2);
+        x.setDrift(22, 1);
         x.pass(3);
         x.tare(1);
         x.board(40, 50, 6);
@@ -526,6 +527,9 @@ public final class PromiseTest {
         x.leave(2);
         String before = lookOf(x);
         for (int action = 0; action < 10; action++) {
+            // If the action recorded nothing, undo() would go back to this other price.
+            x.setPrice(11);
+            x.setPrice(10);
             switch (action) {
                 case 0: x.setDrift(1, -3); break;
                 case 1: x.pass(20); break;
@@ -543,7 +547,6 @@ public final class PromiseTest {
             }
             due("undo() of action " + action, x.undo(), 4);
             due("what undo() of action " + action + " left", lookOf(x).equals(before) ? 1 : 0, 1);
-            x.setPrice(10);
         }
     }
 
@@ -810,6 +813,19 @@ public final class PromiseTest {
         due("certainty(1)", x.certainty(1), 0);
         x.leave(0);
         due("certainty(0) ashore", x.certainty(0), ILLEGAL);
+
+        // The cell on which the walker stands has the earliest tare.
+        FerryFloor y = new FerryFloor();
+        y.pass(2);
+        for (int cell : new int[] {8, 13, 15, 20}) {
+            y.tare(cell);
+        }
+        y.board(50, 50, 14);
+        due("certainty(0)", y.certainty(0), 90);
+        y.leave(0);
+        y.tare(14);
+        y.board(50, 50, 14);
+        due("certainty(1)", y.certainty(1), 100);
     }
 
     private static void guess() {
@@ -850,6 +866,15 @@ public final class PromiseTest {
         due("guess(0)", y.guess(0), 12);
         y.undo();
         due("guess(0) of equal errors", y.guess(0), NONE);
+
+        // Who is ashore has changed places with nobody, though the weight would fit.
+        FerryFloor v = new FerryFloor();
+        v.board(100, 50, 0);
+        v.board(100, 100, 10);
+        v.leave(1);
+        due("count(4)", v.count(4), 50);
+        due("guess(0)", v.guess(0), NONE);
+        due("mend(1)", v.mend(1), 50);
 
         // The two heavy told the same: 0 and 1 both would do for the place of 3, and for that of 2.
         FerryFloor z = new FerryFloor();
@@ -951,6 +976,15 @@ public final class PromiseTest {
         y.tare(11);
         y.tare(4);
         due("bestCell()", y.bestCell(), 5);
+
+        // The cell's own tare counts as well as those around it.
+        FerryFloor z = new FerryFloor();
+        z.pass(1);
+        z.tare(17);
+        z.tare(22);
+        due("bestCell()", z.bestCell(), 0);
+        z.tare(23);
+        due("bestCell()", z.bestCell(), 23);
     }
 
     private static void until() {
