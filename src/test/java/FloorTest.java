@@ -375,6 +375,14 @@ public final class FloorTest extends Checks {
     }
 
     @Sentence("ILLEGAL_STATE if the cell gets a share above 0 from anybody.")
+    static void promise4_onAFullFloorATareWhereNobodyIsNear() {
+        // Eight stand on the cells 0 to 7: the cells 8 to 13 are beside or below one of them.
+        for (int cell = 0; cell < 24; cell++) {
+            due(after(FULL_FLOOR).tare(cell), cell <= 13 ? ILLEGAL : 0);
+        }
+    }
+
+    @Sentence("ILLEGAL_STATE if the cell gets a share above 0 from anybody.")
     static void promise4_theZeroDoesNotHideAShare() {
         // The reading of the cell beside is 2 - 2, and that of the walker's cell 12 - 12.
         leavesAll(x -> {

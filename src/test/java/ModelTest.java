@@ -8,9 +8,11 @@ import java.util.List;
  * written in another way: each answer of the class must be the model's.
  */
 public final class ModelTest {
-    private static final int RUNS = 300;
-    private static final int LEAST_TRIES = 20;
-    private static final int CALLS = 512;
+    private static final int RUNS = 3000;
+    private static final int LEAST_TRIES = 200;
+    // Nothing is promised of more calls: a run ends with a look at everything, or goes on to the last call.
+    private static final int MOST_CALLS = 512;
+    private static final int CALLS_OF_A_LOOK = 300;
     private static final int[] WILD = {Integer.MIN_VALUE, -100009, -7, -1, 8, 9, 24, 61, 101, 151, Integer.MAX_VALUE};
 
     private static long seed = 20261119L;
@@ -51,7 +53,9 @@ public final class ModelTest {
         StringBuilder calls = new StringBuilder();
         // Some runs walk slowly and some fast, so that certainties, drifts and the last minute all come up.
         int longest = new int[] {1, 3, 10, 60}[run % 4];
-        for (int call = 0; call < CALLS && wrong < 20; call++) {
+        boolean toTheLast = run % 10 == 9;
+        int most = toTheLast ? MOST_CALLS : 1 + random(MOST_CALLS - CALLS_OF_A_LOOK);
+        for (int call = 0; call < most && wrong < 20; call++) {
             int kind = chooseKind(run);
             int a = 0;
             int b = 0;
@@ -78,9 +82,9 @@ public final class ModelTest {
             calls.append("promise ").append(kind).append('(').append(a).append(", ").append(b).append(", ").append(c)
                     .append(") ").append(want).append('\n');
             compare(run, calls, "the call", got, want);
-            if (call % 16 == 15) {
-                lookAtAll(run, calls, x, m);
-            }
+        }
+        if (!toTheLast) {
+            lookAtAll(run, calls, x, m);
         }
     }
 

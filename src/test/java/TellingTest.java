@@ -287,6 +287,17 @@ public final class TellingTest extends Checks {
     }
 
     @Sentence(GUESS)
+    static void promise19_whoIsAshoreIsNotGuessedAsTheLowerNumberEither() {
+        Ferry x = new Ferry();
+        x.board(100, 100, 10);
+        x.board(100, 50, 0);
+        x.leave(0);
+        due(x.count(4), 50);
+        due(x.guess(0), NONE);
+        due(x.mend(0), 0);
+    }
+
+    @Sentence(GUESS)
     static void promise19_theGuessChangesNothing() {
         leavesAll(TWO_SWAPPED, x -> x.guess(0), 1);
         leavesAll(TWO_SWAPPED, x -> x.guess(1), 0);
@@ -481,6 +492,16 @@ public final class TellingTest extends Checks {
             due(x.bestCell(), 0);
             x.tare(missing);
             due(x.bestCell(), 8);
+        }
+    }
+
+    @Sentence(BEST)
+    static void promise21_oneLateTareAloneIsNotEnough() {
+        for (int cell = 0; cell < 24; cell++) {
+            Ferry x = new Ferry();
+            x.pass(1);
+            x.tare(cell);
+            due(x.bestCell(), 0);
         }
     }
 
