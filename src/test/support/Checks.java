@@ -81,7 +81,7 @@ abstract class Checks {
 
     static void fail(String why) {
         wrong++;
-        System.out.println(test + ": " + why);
+        System.out.println(test.isEmpty() ? why : test + ": " + why);
     }
 
     /** The answer of the call that was made last. */
